@@ -294,7 +294,7 @@ public final class RedoShelf {
 
     /** The sectors and the cache before them. */
     private static final class Device {
-        // Fullest when a checkpoint of all blocks begins behind as many direct writes as are allowed.
+        // A checkpoint writes at most all blocks, behind as many direct writes as are allowed.
         private static final int CACHE_ROOM = DIRECT_LIMIT + BLOCKS;
 
         private final int[] sectorWords = new int[SECTORS * WORDS];

@@ -8,6 +8,11 @@ final class Check {
         this.test = test;
     }
 
+    /** A new object, for a test of this sentence of the document. */
+    Run run(String sentence) {
+        return new Run(this, sentence);
+    }
+
     void due(String what, long got, long want) {
         asked++;
         if (got != want) {
@@ -20,18 +25,9 @@ final class Check {
         due(what, got ? 1 : 0, want ? 1 : 0);
     }
 
-    /** The four words of a sector of the device itself. */
-    void dueStored(String what, RedoShelf x, int sector, int... want) {
-        for (int w = 0; w < 4; w++) {
-            due(what + ": stored(" + sector + ", " + w + ")", x.stored(sector, w), want[w]);
-        }
-    }
-
-    /** The four words of a sector as a read gives them. */
-    void dueRead(String what, RedoShelf x, int sector, int... want) {
-        for (int w = 0; w < 4; w++) {
-            due(what + ": read(" + sector + ", " + w + ")", x.read(sector, w), want[w]);
-        }
+    /** Stands where the test of a sentence would stand, if a run of calls could reach its case. */
+    void unreachable(String sentence, String reason) {
+        System.out.println(test + ": no run of calls reaches '" + sentence + "': " + reason);
     }
 
     int wrong() {

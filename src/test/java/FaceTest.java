@@ -49,7 +49,28 @@ public final class FaceTest {
             check.due(inside.getName() + " is static", Modifier.isStatic(inside.getModifiers()), true);
             check.due(inside.getName() + " is public", Modifier.isPublic(inside.getModifiers()), false);
         }
+        duePrivateNamesOfTheirOwn(check);
         check.end();
+    }
+
+    /** No private method bears the name of a public one. */
+    private static void duePrivateNamesOfTheirOwn(Check check) {
+        TreeSet<String> open = new TreeSet<>();
+        for (Method method : RedoShelf.class.getMethods()) {
+            open.add(method.getName());
+        }
+        List<Method> others = new ArrayList<>();
+        for (Method method : RedoShelf.class.getDeclaredMethods()) {
+            if (Modifier.isPrivate(method.getModifiers())) {
+                others.add(method);
+            }
+        }
+        for (Class<?> inside : RedoShelf.class.getDeclaredClasses()) {
+            others.addAll(List.of(inside.getDeclaredMethods()));
+        }
+        for (Method method : others) {
+            check.due(method + " has the name of a public one", open.contains(method.getName()), false);
+        }
     }
 
     private static List<String> openMembers() {
